@@ -89,7 +89,12 @@ public final class CellSwitch {
         for (int k = 0; k < n; k++) {
             time++;
             for (int s = 0; s < sides.length; s++) {
-                takeTurn(sides[s]);
+                Side side = sides[s];
+                if (side.line.timers(time)) {
+                    side.allOver(time);
+                }
+                side.callTimers(time);
+                side.line.turn(time);
             }
             for (int e = 0; e < ends; e++) {
                 endSides[e].sendCells(directions[2 * e]);
@@ -102,14 +107,6 @@ public final class CellSwitch {
             }
         }
         return time;
-    }
-
-    private void takeTurn(Side side) {
-        if (side.line.timers(time)) {
-            side.allOver(time);
-        }
-        side.callTimers(time);
-        side.line.turn(time);
     }
 
     /** What is on the link comes to its receiver; what a cell brings is dealt with before the next octet. */
@@ -127,10 +124,12 @@ public final class CellSwitch {
             } else if (event == Line.WRONG) {
                 side.line.ask(Line.RESETTING, Line.RECOVER, time);
             }
-            for (int m = 0; m < WINDOW && side.line.takeNext(message) > 0; m++) {
-                if (signal.read(message, side.line.takenLength, d % 2 == 1)) {
+            int length = side.line.takeNext(message);
+            for (int m = 0; m < WINDOW && length > 0; m++) {
+                if (signal.read(message, length, d % 2 == 1)) {
                     side.came(signal, time);
                 }
+                length = side.line.takeNext(message);
             }
         }
     }
@@ -192,7 +191,7 @@ public final class CellSwitch {
         if (c.state == Call.OVER || c.state == Call.RELEASING) {
             return 0;
         }
-        c.side.release(c, Call.CAUSE_HUNG, time);
+        c.release(Call.CAUSE_HUNG, time);
         return 1;
     }
 
@@ -252,7 +251,7 @@ public final class CellSwitch {
         if (i == -1) {
             return what == 0 ? side.receivedInAll : BAD;
         }
-        int place = side.placeOf(i);
+        int place = side.placeOfFrame(i);
         if (place < 0) {
             return BAD;
         }
@@ -269,7 +268,7 @@ public final class CellSwitch {
             return BAD;
         }
         EndSide side = endSides[e];
-        int place = side.placeOf(i);
+        int place = side.placeOfFrame(i);
         if (place < 0 || k < 0 || k >= side.receivedLengths[place]) {
             return BAD;
         }
@@ -787,14 +786,14 @@ public final class CellSwitch {
             first = 0;
             size = 0;
             for (int i = 0; i < places; i++) {
-                clear(i);
+                lengths[i] = 0;
+                again[i] = false;
             }
         }
 
         void clear(int place) {
             if (place >= 0 && place < places) {
                 lengths[place] = 0;
-                polls[place] = 0;
                 again[place] = false;
             }
         }
@@ -808,26 +807,43 @@ public final class CellSwitch {
             lengths[place] = length;
         }
 
-        /** Opens an empty message behind those that wait; false: it is refused. */
-        boolean open() {
+        /** Begins a message of calls behind those that wait; false: it is refused. */
+        boolean begin(int type, int reference, boolean own, int elementBytes) {
             if (size >= places) {
                 return false;
             }
-            lengths[(first + size) % places] = 0;
+            int place = (first + size) % places;
+            int at = place * MESSAGE_BYTES;
+            bytes[at] = Signal.FIRST;
+            bytes[at + 1] = Signal.SECOND;
+            bytes[at + 2] = reference >>> 16 & 127 | (own ? 0 : 128);
+            bytes[at + 3] = reference >>> 8 & 255;
+            bytes[at + 4] = reference & 255;
+            bytes[at + 5] = type;
+            bytes[at + 6] = Signal.MARK;
+            bytes[at + 7] = 0;
+            bytes[at + 8] = elementBytes;
+            lengths[place] = Signal.PREFIX;
             size++;
             return true;
         }
 
-        /** Writes behind the message that was opened last. */
-        void append(int value, int octets) {
-            if (size < 1) {
+        /** Writes an element of one or two bytes behind the message that was begun last. */
+        void element(int kind, int octets, int value) {
+            int place = (first + Math.max(0, size - 1)) % places;
+            int length = lengths[place];
+            if (size < 1 || length + Signal.ELEMENT_PREFIX + octets > MESSAGE_BYTES) {
                 return;
             }
-            int place = (first + size - 1) % places;
-            for (int k = octets - 1; k >= 0 && lengths[place] < MESSAGE_BYTES; k--) {
-                bytes[place * MESSAGE_BYTES + lengths[place]] = value >>> 8 * k & 255;
-                lengths[place]++;
+            int at = place * MESSAGE_BYTES + length;
+            bytes[at] = kind;
+            bytes[at + 1] = Signal.MARK;
+            bytes[at + 2] = 0;
+            bytes[at + 3] = octets;
+            for (int k = 0; k < octets; k++) {
+                bytes[at + Signal.ELEMENT_PREFIX + k] = value >>> 8 * (octets - 1 - k) & 255;
             }
+            lengths[place] = length + Signal.ELEMENT_PREFIX + octets;
         }
 
         void dropFirst() {
@@ -860,13 +876,13 @@ public final class CellSwitch {
         private int lastNumber;
         private int lastBegin;
         private int lastReset;
+        /** What it asked with last, and how often. */
         private int asked;
-        private int askedAt;
         private int tries;
+        /** When it asked last, READY by a POLL (or became READY), otherwise to be in another state. */
+        private int askedAt;
         private int dataSincePoll;
-        private int lastPoll;
         private int lastStatus;
-        int takenLength;
 
         Line(Direction out) {
             this.out = out;
@@ -914,7 +930,7 @@ public final class CellSwitch {
         private void becomeReady(int time) {
             anew(WINDOW);
             state = READY;
-            lastPoll = time;
+            askedAt = time;
             lastStatus = time;
         }
 
@@ -961,7 +977,7 @@ public final class CellSwitch {
                 }
             } else if (time - lastStatus >= STATUS_TICKS) {
                 givenUp = true;
-            } else if (time - lastPoll >= (s > a ? POLL_TICKS : IDLE_POLL_TICKS)) {
+            } else if (time - askedAt >= (s > a ? POLL_TICKS : IDLE_POLL_TICKS)) {
                 poll(time);
             }
             if (givenUp) {
@@ -974,7 +990,7 @@ public final class CellSwitch {
         private void poll(int time) {
             p++;
             dataSincePoll = 0;
-            lastPoll = time;
+            askedAt = time;
             out.word(p);
             out.sendUnit(POLL, s);
         }
@@ -987,9 +1003,8 @@ public final class CellSwitch {
                 return;
             }
             for (int n = a; n < s; n++) {
-                if (sent.again[n % WINDOW]) {
-                    sendData(n);
-                    pollIfDue(time);
+                if (sent.again[n % WINDOW] && sendData(n)) {
+                    poll(time);
                 }
             }
             for (int k = 0; k < ROW && waiting.size > 0 && s < may && s - a < WINDOW; k++) {
@@ -997,24 +1012,21 @@ public final class CellSwitch {
                 sent.put(s % WINDOW, waiting.bytes, from * MESSAGE_BYTES, waiting.lengths[from]);
                 waiting.dropFirst();
                 s++;
-                sendData(s - 1);
-                pollIfDue(time);
+                if (sendData(s - 1)) {
+                    poll(time);
+                }
             }
         }
 
-        private void sendData(int n) {
+        /** Answers whether a POLL is due behind it. */
+        private boolean sendData(int n) {
             int place = n % WINDOW;
             sent.polls[place] = p;
             sent.again[place] = false;
             dataSincePoll++;
             out.row(sent.bytes, place * MESSAGE_BYTES, sent.lengths[place]);
             out.sendUnit(DATA, n);
-        }
-
-        private void pollIfDue(int time) {
-            if (dataSincePoll >= DATA_A_POLL) {
-                poll(time);
-            }
+            return dataSincePoll >= DATA_A_POLL;
         }
 
         /** Deals with a unit; answers what else is to be done: NOTHING, CALLS_OVER or WRONG. */
@@ -1163,15 +1175,15 @@ public final class CellSwitch {
         /** Moves the message whose turn it is to a row; answers its length, 0 if it is not there. */
         int takeNext(int[] to) {
             int place = r % WINDOW;
-            takenLength = ahead.lengths[place];
-            if (takenLength < 1 || takenLength > to.length) {
+            int length = ahead.lengths[place];
+            if (length < 1 || length > to.length) {
                 return 0;
             }
-            System.arraycopy(ahead.bytes, place * MESSAGE_BYTES, to, 0, takenLength);
+            System.arraycopy(ahead.bytes, place * MESSAGE_BYTES, to, 0, length);
             ahead.clear(place);
             r++;
             h = Math.max(h, r);
-            return takenLength;
+            return length;
         }
 
         private void pollCame(int number, int n) {
@@ -1229,7 +1241,7 @@ public final class CellSwitch {
                 return false;
             }
             acknowledge(n);
-            markAgain(from, to, Integer.MAX_VALUE);
+            markAgain(from, to, p + 1);
             return true;
         }
 
@@ -1299,8 +1311,29 @@ public final class CellSwitch {
             }
         }
 
+        /** Its timer went off once; it is set once more. */
+        void repeat(int newDue) {
+            due = newDue;
+            repeated = true;
+        }
+
         boolean isOpen() {
             return state != OVER;
+        }
+
+        /** Asks the other side to clear it, if it is not cleared or being cleared. */
+        void release(int why, int time) {
+            if (state == OVER || state == RELEASING) {
+                return;
+            }
+            cause = why;
+            enter(RELEASING, time + Side.RELEASE_TICKS);
+            side.sayCause(Signal.RELEASE, reference, own, why);
+        }
+
+        void finish(int why) {
+            cause = why;
+            enter(OVER, 0);
         }
 
         /** A frame waits behind the others; false: as many as may wait do. */
@@ -1347,8 +1380,7 @@ public final class CellSwitch {
     private static final class Signal {
         static final int SETUP = 5, PROCEEDING = 2, CONNECT = 7, CONFIRM = 15, RELEASE = 77, COMPLETE = 90;
         static final int CALLED = 112, CALLER = 108, RATE = 89, CHANNEL = 90, CAUSE = 8;
-        static final int FIRST = 9, SECOND = 3, MARK = 128, OTHERS = 0x800000;
-        private static final int PREFIX = 9, ELEMENT_PREFIX = 4;
+        static final int FIRST = 9, SECOND = 3, MARK = 128, PREFIX = 9, ELEMENT_PREFIX = 4;
 
         int type;
         int reference;
@@ -1367,9 +1399,8 @@ public final class CellSwitch {
                 || bytes[6] != MARK || (bytes[7] << 8 | bytes[8]) != length - PREFIX) {
                 return false;
             }
-            int told = bytes[2] << 16 | bytes[3] << 8 | bytes[4];
-            bySender = (told & OTHERS) == 0;
-            reference = told & OTHERS - 1;
+            bySender = bytes[2] < 128;
+            reference = (bytes[2] & 127) << 16 | bytes[3] << 8 | bytes[4];
             type = bytes[5];
             at = PREFIX;
             return readElements(bytes, length, ofSwitch) && at == length;
@@ -1440,7 +1471,7 @@ public final class CellSwitch {
             return n;
         }
 
-        private int placeOf(int reference, boolean own) {
+        private int placeOfReference(int reference, boolean own) {
             for (int i = 0; i < references.size(); i++) {
                 Call call = references.get(i);
                 if (call.reference == reference && call.own == own) {
@@ -1452,7 +1483,7 @@ public final class CellSwitch {
 
         /** A reference that comes once more keeps its place among the others. */
         void keep(Call call) {
-            int place = placeOf(call.reference, call.own);
+            int place = placeOfReference(call.reference, call.own);
             if (place < 0) {
                 references.add(call);
             } else {
@@ -1461,7 +1492,7 @@ public final class CellSwitch {
         }
 
         void came(Signal signal, int time) {
-            int place = placeOf(signal.reference, !signal.bySender);
+            int place = placeOfReference(signal.reference, !signal.bySender);
             Call call = place < 0 ? null : references.get(place);
             if (call == null || !call.isOpen()) {
                 if (signal.type == Signal.SETUP) {
@@ -1480,23 +1511,9 @@ public final class CellSwitch {
             if (signal.type == Signal.RELEASE) {
                 sayCause(Signal.COMPLETE, call.reference, call.own, signal.cause);
             }
-            if (call.state != Call.RELEASING) {
-                call.cause = signal.cause;
-            }
-            call.enter(Call.OVER, 0);
-            releasePartner(call, signal.cause, time);
-        }
-
-        void release(Call call, int cause, int time) {
-            call.cause = cause;
-            call.enter(Call.RELEASING, time + RELEASE_TICKS);
-            sayCause(Signal.RELEASE, call.reference, call.own, cause);
-        }
-
-        void releasePartner(Call call, int cause, int time) {
-            Call partner = call.partner;
-            if (partner != null && partner.isOpen() && partner.state != Call.RELEASING) {
-                partner.side.release(partner, cause, time);
+            call.finish(call.state == Call.RELEASING ? call.cause : signal.cause);
+            if (call.partner != null) {
+                call.partner.release(signal.cause, time);
             }
         }
 
@@ -1504,10 +1521,12 @@ public final class CellSwitch {
         void allOver(int time) {
             for (int i = 0; i < references.size(); i++) {
                 Call call = references.get(i);
-                if (call.isOpen()) {
-                    call.cause = Call.CAUSE_CUT;
-                    call.enter(Call.OVER, 0);
-                    releasePartner(call, Call.CAUSE_CUT, time);
+                if (!call.isOpen()) {
+                    continue;
+                }
+                call.finish(Call.CAUSE_CUT);
+                if (call.partner != null) {
+                    call.partner.release(Call.CAUSE_CUT, time);
                 }
             }
         }
@@ -1521,39 +1540,21 @@ public final class CellSwitch {
                 if (call.state != Call.RELEASING) {
                     timer(call, time);
                 } else if (call.repeated) {
-                    call.enter(Call.OVER, 0);
+                    call.finish(call.cause);
                 } else {
-                    call.repeated = true;
-                    call.due = time + RELEASE_TICKS;
+                    call.repeat(time + RELEASE_TICKS);
                     sayCause(Signal.RELEASE, call.reference, call.own, call.cause);
                 }
             }
         }
 
-        /** Begins a message; false: it is refused, and nothing of it is to be said. */
-        boolean open(int type, int reference, boolean own, int elementBytes) {
-            if (!line.waiting.open()) {
-                return false;
-            }
-            line.waiting.append(Signal.FIRST << 8 | Signal.SECOND, 2);
-            line.waiting.append(own ? reference : reference | Signal.OTHERS, 3);
-            line.waiting.append(type << 8 | Signal.MARK, 2);
-            line.waiting.append(elementBytes, 2);
-            return true;
-        }
-
-        void element(int kind, int size, int value) {
-            line.waiting.append(kind << 24 | Signal.MARK << 16 | size, 4);
-            line.waiting.append(value, size);
-        }
-
         void sayPlain(int type, Call call) {
-            open(type, call.reference, call.own, 0);
+            line.waiting.begin(type, call.reference, call.own, 0);
         }
 
         void sayCause(int type, int reference, boolean own, int cause) {
-            if (open(type, reference, own, 5)) {
-                element(Signal.CAUSE, 1, cause);
+            if (line.waiting.begin(type, reference, own, 5)) {
+                line.waiting.element(Signal.CAUSE, 1, cause);
             }
         }
     }
@@ -1605,13 +1606,12 @@ public final class CellSwitch {
         }
 
         private void saySetup(Call call) {
-            if (open(Signal.SETUP, call.reference, call.own, 10)) {
-                element(Signal.CALLED, 1, call.other);
-                element(Signal.RATE, 1, call.rate);
+            if (line.waiting.begin(Signal.SETUP, call.reference, call.own, 10)) {
+                line.waiting.element(Signal.CALLED, 1, call.other);
+                line.waiting.element(Signal.RATE, 1, call.rate);
             }
         }
 
-        @Override
         void setupCame(Signal signal, int time) {
             if (!hasRoom()) {
                 sayCause(Signal.COMPLETE, signal.reference, false, Call.CAUSE_TOO_MANY);
@@ -1623,7 +1623,7 @@ public final class CellSwitch {
             call.channel = signal.channel;
             add(call);
             if (policyKind == NEVER) {
-                call.cause = Call.CAUSE_BUSY;
+                call.finish(Call.CAUSE_BUSY);
                 sayCause(Signal.COMPLETE, call.reference, false, Call.CAUSE_BUSY);
             } else if (policyKind == LATER) {
                 call.enter(Call.PRESENT, time + policyTicks);
@@ -1638,13 +1638,12 @@ public final class CellSwitch {
             sayPlain(Signal.CONNECT, call);
         }
 
-        @Override
         void progress(Call call, Signal signal, int time) {
             if (signal.type == Signal.PROCEEDING && call.state == Call.ASKED) {
                 call.channel = signal.channel;
                 call.enter(Call.PROCEEDING, time + ANSWER_TICKS);
             } else if (signal.type == Signal.CONNECT && call.state == Call.ASKED) {
-                release(call, Call.CAUSE_WRONG, time);
+                call.release(Call.CAUSE_WRONG, time);
             } else if (signal.type == Signal.CONNECT && call.state == Call.PROCEEDING) {
                 call.enter(Call.ACTIVE, 0);
                 sayPlain(Signal.CONFIRM, call);
@@ -1653,18 +1652,15 @@ public final class CellSwitch {
             }
         }
 
-        @Override
         void timer(Call call, int time) {
             if (call.state == Call.PRESENT) {
                 answer(call, time);
             } else if (call.state != Call.ASKED) {
-                release(call, Call.CAUSE_LATE, time);
+                call.release(Call.CAUSE_LATE, time);
             } else if (call.repeated) {
-                call.cause = Call.CAUSE_LATE;
-                call.enter(Call.OVER, 0);
+                call.finish(Call.CAUSE_LATE);
             } else {
-                call.repeated = true;
-                call.due = time + AGAIN_TICKS;
+                call.repeat(time + AGAIN_TICKS);
                 saySetup(call);
             }
         }
@@ -1702,7 +1698,7 @@ public final class CellSwitch {
         }
 
         /** Where the i-th latest frame is kept, or -1. */
-        int placeOf(int i) {
+        int placeOfFrame(int i) {
             if (i < 0 || i >= KEPT || i >= receivedInAll) {
                 return -1;
             }
@@ -1795,7 +1791,6 @@ public final class CellSwitch {
             return fits ? 0 : Call.CAUSE_NO_RATE;
         }
 
-        @Override
         void setupCame(Signal signal, int time) {
             int cause = refusal(signal);
             if (cause != 0) {
@@ -1823,21 +1818,20 @@ public final class CellSwitch {
         }
 
         private void sayProceeding(Call call) {
-            if (open(Signal.PROCEEDING, call.reference, call.own, 6)) {
-                element(Signal.CHANNEL, 2, call.channel);
+            if (line.waiting.begin(Signal.PROCEEDING, call.reference, call.own, 6)) {
+                line.waiting.element(Signal.CHANNEL, 2, call.channel);
             }
         }
 
         private void saySetup(Call call) {
-            if (open(Signal.SETUP, call.reference, call.own, 21)) {
-                element(Signal.CALLED, 1, link);
-                element(Signal.RATE, 1, call.rate);
-                element(Signal.CALLER, 1, call.other);
-                element(Signal.CHANNEL, 2, call.channel);
+            if (line.waiting.begin(Signal.SETUP, call.reference, call.own, 21)) {
+                line.waiting.element(Signal.CALLED, 1, link);
+                line.waiting.element(Signal.RATE, 1, call.rate);
+                line.waiting.element(Signal.CALLER, 1, call.other);
+                line.waiting.element(Signal.CHANNEL, 2, call.channel);
             }
         }
 
-        @Override
         void progress(Call call, Signal signal, int time) {
             boolean connects = signal.type == Signal.CONNECT
                 && (call.state == Call.PRESENT || call.state == Call.PRESENTED);
@@ -1852,19 +1846,20 @@ public final class CellSwitch {
             }
         }
 
-        @Override
         void timer(Call call, int time) {
-            if (call.state == Call.PRESENTED) {
-                release(call, Call.CAUSE_LATE, time);
-                releasePartner(call, Call.CAUSE_LATE, time);
-            } else if (call.repeated) {
-                call.cause = Call.CAUSE_LATE;
-                call.enter(Call.OVER, 0);
-                releasePartner(call, Call.CAUSE_LATE, time);
-            } else {
-                call.repeated = true;
-                call.due = time + AGAIN_TICKS;
+            boolean again = call.state == Call.PRESENT && !call.repeated;
+            if (again) {
+                call.repeat(time + AGAIN_TICKS);
                 saySetup(call);
+                return;
+            }
+            if (call.state == Call.PRESENTED) {
+                call.release(Call.CAUSE_LATE, time);
+            } else {
+                call.finish(Call.CAUSE_LATE);
+            }
+            if (call.partner != null) {
+                call.partner.release(Call.CAUSE_LATE, time);
             }
         }
     }
