@@ -170,7 +170,7 @@ public final class CellSwitch {
         }
         int way = 2 * to.side.link + 1;
         if (way < directions.length) {
-            directions[way].addData(to.channel << 4 | head & 0xE, payload, 0);
+            directions[way].addData((to.channel << 4) | (head & 0xE), payload, 0);
         }
     }
 
@@ -399,8 +399,8 @@ public final class CellSwitch {
     private static int hecOf(int head) {
         int rest = 0;
         for (int shift = 28; shift >= 0; shift -= 4) {
-            int step = (rest >>> 4 ^ head >>> shift) & 15;
-            rest = rest << 4 & 255 ^ HEC_STEPS[step];
+            int step = ((rest >>> 4) ^ (head >>> shift)) & 15;
+            rest = ((rest << 4) & 255) ^ HEC_STEPS[step];
         }
         return rest ^ 0x55;
     }
@@ -408,7 +408,7 @@ public final class CellSwitch {
     /** The one bit of the 40 that makes a header right (0 the highest), or -1. */
     private static int wrongBit(int head, int hec) {
         for (int bit = 0; bit < 32; bit++) {
-            if (hecOf(head ^ 1 << 31 - bit) == hec) {
+            if (hecOf(head ^ (1 << (31 - bit))) == hec) {
                 return bit;
             }
         }
@@ -421,7 +421,7 @@ public final class CellSwitch {
         for (int i = 0; i < n && i < bytes.length; i++) {
             rest ^= bytes[i] << 24;
             for (int bit = 0; bit < 8; bit++) {
-                rest = rest < 0 ? rest << 1 ^ 0x04C11DB7 : rest << 1;
+                rest = rest < 0 ? (rest << 1) ^ 0x04C11DB7 : rest << 1;
             }
         }
         return ~rest;
@@ -453,7 +453,7 @@ public final class CellSwitch {
         if (at < 0 || at + 4 > bytes.length) {
             return 0;
         }
-        return bytes[at] << 24 | bytes[at + 1] << 16 | bytes[at + 2] << 8 | bytes[at + 3];
+        return (bytes[at] << 24) | (bytes[at + 1] << 16) | (bytes[at + 2] << 8) | bytes[at + 3];
     }
 
     /** Cells that wait for the link; their headers are made when they go. */
@@ -541,8 +541,8 @@ public final class CellSwitch {
 
         private void putHeader(int head) {
             wire[onWire] = head >>> 24;
-            wire[onWire + 1] = head >>> 16 & 255;
-            wire[onWire + 2] = head >>> 8 & 255;
+            wire[onWire + 1] = (head >>> 16) & 255;
+            wire[onWire + 2] = (head >>> 8) & 255;
             wire[onWire + 3] = head & 255;
             wire[onWire + 4] = hecOf(head);
         }
@@ -576,7 +576,7 @@ public final class CellSwitch {
 
         void word(int value) {
             for (int shift = 24; shift >= 0 && unitLength < FRAME_BYTES; shift -= 8) {
-                unit[unitLength] = value >>> shift & 255;
+                unit[unitLength] = (value >>> shift) & 255;
                 unitLength++;
             }
         }
@@ -591,7 +591,7 @@ public final class CellSwitch {
 
         /** Ends the unit of the words and the row that were told, and queues it, if all its cells fit. */
         void sendUnit(int kind, int n) {
-            word(kind << 24 | n);
+            word((kind << 24) | n);
             int cells = closeFrame(unit, unitLength);
             unitLength = 0;
             if (messages.size + cells > QUEUE_CELLS) {
@@ -599,7 +599,7 @@ public final class CellSwitch {
                 return;
             }
             for (int c = 0; c < cells; c++) {
-                messages.add(MESSAGE_CHANNEL << 4 | (c == cells - 1 ? 2 : 0), unit, c * PAYLOAD);
+                messages.add((MESSAGE_CHANNEL << 4) | (c == cells - 1 ? 2 : 0), unit, c * PAYLOAD);
             }
         }
 
@@ -651,8 +651,8 @@ public final class CellSwitch {
                 headerOctet(octets[from]);
                 return 1;
             }
-            int n = Math.max(1, Math.min(to - from, CELL - place));
-            if (keep && place + n <= CELL) {
+            int n = Math.min(to - from, CELL - place);
+            if (keep) {
                 System.arraycopy(octets, from, payload, place - HEAD, n);
             }
             place += n;
@@ -720,7 +720,7 @@ public final class CellSwitch {
             }
             keep = true;
             putRight++;
-            head ^= bit < 32 ? 1 << 31 - bit : 0;
+            head ^= bit < 32 ? 1 << (31 - bit) : 0;
         }
 
         private void hunt() {
@@ -756,7 +756,7 @@ public final class CellSwitch {
 
         private boolean isWhole(int came) {
             int end = came * PAYLOAD;
-            length = bytes[end - 6] << 8 | bytes[end - 5];
+            length = (bytes[end - 6] << 8) | bytes[end - 5];
             return length >= 1 && length <= FRAME_BYTES && cellsFor(length) == came
                 && crcOf(bytes, end - 4) == wordAt(bytes, end - 4);
         }
@@ -816,8 +816,8 @@ public final class CellSwitch {
             int at = place * MESSAGE_BYTES;
             bytes[at] = Signal.FIRST;
             bytes[at + 1] = Signal.SECOND;
-            bytes[at + 2] = reference >>> 16 & 127 | (own ? 0 : 128);
-            bytes[at + 3] = reference >>> 8 & 255;
+            bytes[at + 2] = ((reference >>> 16) & 127) | (own ? 0 : 128);
+            bytes[at + 3] = (reference >>> 8) & 255;
             bytes[at + 4] = reference & 255;
             bytes[at + 5] = type;
             bytes[at + 6] = Signal.MARK;
@@ -841,7 +841,7 @@ public final class CellSwitch {
             bytes[at + 2] = 0;
             bytes[at + 3] = octets;
             for (int k = 0; k < octets; k++) {
-                bytes[at + Signal.ELEMENT_PREFIX + k] = value >>> 8 * (octets - 1 - k) & 255;
+                bytes[at + Signal.ELEMENT_PREFIX + k] = (value >>> (8 * (octets - 1 - k))) & 255;
             }
             lengths[place] = length + Signal.ELEMENT_PREFIX + octets;
         }
@@ -1358,7 +1358,7 @@ public final class CellSwitch {
         void sendCells(Direction out) {
             for (int k = 0; k < rate && framesWaiting > 0 && frames != null && frameCells != null; k++) {
                 boolean last = cellsGone + 1 >= frameCells[firstFrame];
-                out.addData(channel << 4 | (last ? 2 : 0), frames[firstFrame], cellsGone * PAYLOAD);
+                out.addData((channel << 4) | (last ? 2 : 0), frames[firstFrame], cellsGone * PAYLOAD);
                 cellsGone++;
                 if (last) {
                     cellsGone = 0;
@@ -1396,11 +1396,11 @@ public final class CellSwitch {
         /** Answers whether the bytes are just such a message as this sender's are. */
         boolean read(int[] bytes, int length, boolean ofSwitch) {
             if (length < PREFIX || length > bytes.length || bytes[0] != FIRST || bytes[1] != SECOND
-                || bytes[6] != MARK || (bytes[7] << 8 | bytes[8]) != length - PREFIX) {
+                || bytes[6] != MARK || ((bytes[7] << 8) | bytes[8]) != length - PREFIX) {
                 return false;
             }
             bySender = bytes[2] < 128;
-            reference = (bytes[2] & 127) << 16 | bytes[3] << 8 | bytes[4];
+            reference = ((bytes[2] & 127) << 16) | (bytes[3] << 8) | bytes[4];
             type = bytes[5];
             at = PREFIX;
             return readElements(bytes, length, ofSwitch) && at == length;
@@ -1434,11 +1434,11 @@ public final class CellSwitch {
             int start = at;
             int end = start + ELEMENT_PREFIX + size;
             if (end > length || length > bytes.length
-                || wordAt(bytes, start) != (kind << 24 | MARK << 16 | size)) {
+                || wordAt(bytes, start) != ((kind << 24) | (MARK << 16) | size)) {
                 return -1;
             }
             at = end;
-            return size == 1 ? bytes[end - 1] : bytes[end - 2] << 8 | bytes[end - 1];
+            return size == 1 ? bytes[end - 1] : (bytes[end - 2] << 8) | bytes[end - 1];
         }
     }
 
