@@ -18,6 +18,11 @@ public final class CallsTest {
         anAnswerThatDoesNotCome();
         setupAfterTheEnd();
         eightCallsAtTheEndCalled();
+        tenMessagesWait();
+        aLateAnswer();
+        fortyTicks();
+        timersBeginAnew();
+        setupAfterTheEndIsAnotherCall();
         due.end();
     }
 
@@ -348,5 +353,114 @@ public final class CallsTest {
         due.same("no call is made of it", x.calls(1), 8);
         x.tick(6);
         due.call("COMPLETE 47", x, 0, 0, 0, 1, 32, 1, 1, 47);
+    }
+
+    private static void tenMessagesWait() {
+        CellSwitch x = Link.synced(2);
+        for (int i = 0; i < 5; i++) {
+            x.call(0, 1, 1);
+            x.hang(0, i);
+        }
+        due.same("ten wait", x.line(0, 8), 10);
+        due.same("five are not over", x.call(0, 1, 1), CellSwitch.FULL);
+        due.same("no call is made", x.calls(0), 5);
+        x.tick(3);
+        due.same("eight are gone", x.call(0, 1, 1), 5);
+        due.call("no reference was used up", x, 0, 5, 1, 6);
+    }
+
+    /** PROCEEDING of the end called: the switch waits for 40 ticks. */
+    private static void aLateAnswer() {
+        CellSwitch x = Link.synced(2);
+        x.policy(1, 1, 30);
+        x.call(0, 1, 1);
+        x.tick(35);
+        due.call("PRESENT at 45", x, 1, 0, 6);
+        due.call("PROCEEDING at 45", x, 0, 0, 3);
+        x.tick(1);
+        due.call("ANSWERED at 46", x, 1, 0, 8);
+        x.tick(2);
+        due.call("ACTIVE at 48", x, 0, 0, 10);
+        due.call("ACTIVE at 48", x, 1, 0, 10);
+        due.same("one call there", x.calls(1), 1);
+        x.tick(1);
+        due.same("SETUP and CONFIRM were told", x.line(0, 1), 2);
+    }
+
+    /** CONNECT is lost at 46 by a reset; the end that calls gives up at 54, the switch at 57. */
+    private static void fortyTicks() {
+        CellSwitch x = Link.synced(2);
+        x.policy(1, 1, 30);
+        x.call(0, 1, 1);
+        x.tick(35);
+        Link.lose(x, 2, 0, 4);
+        x.tick(1);
+        x.reset(1);
+        x.tick(7);
+        due.call("PROCEEDING at 53", x, 0, 0, 3, 1, 32, 1, 1, 0);
+        Link.lose(x, 0, 0, 4);
+        x.tick(1);
+        due.call("RELEASE 102 at 54", x, 0, 0, 11, 1, 32, 1, 1, 102);
+        x.reset(0);
+        x.tick(1);
+        Link.lose(x, 2, 0, 4);
+        due.call("ANSWERED at 55", x, 1, 0, 8);
+        x.tick(1);
+        due.call("RELEASE 102 at 56", x, 1, 0, 11, 1001, 32, 1, 0, 102);
+        due.call("not answered", x, 0, 0, 11);
+        x.tick(1);
+        due.call("RELEASE of the switch at 57", x, 1, 0, 0, 1001, 32, 1, 0, 102);
+        due.call("the side of end 0 had its turn before", x, 0, 0, 11);
+        x.tick(1);
+        due.call("RELEASE of the switch at 58", x, 0, 0, 0, 1, 32, 1, 1, 102);
+        x.tick(3);
+        links("all over", x, 0, 0, 0, 0);
+        links("all over", x, 1, 0, 0, 0);
+    }
+
+    /** SETUP was told twice; RELEASE is told twice all the same. */
+    private static void timersBeginAnew() {
+        CellSwitch x = Link.synced(2);
+        x.damage(0, Link.LOSE, 0, 0, 0);
+        x.damage(1, Link.LOSE, 4 * 6, 0, 0);
+        x.call(0, 1, 1);
+        x.tick(22);
+        due.call("ACTIVE at 32", x, 0, 0, 10);
+        x.tick(4);
+        Link.lose(x, 0, 0, 4);
+        x.hang(0, 0);
+        x.tick(1);
+        x.reset(0);
+        x.tick(8);
+        due.call("RELEASING at 45", x, 0, 0, 11);
+        x.tick(1);
+        due.call("RELEASE again at 46", x, 0, 0, 11);
+        x.tick(1);
+        due.call("COMPLETE", x, 0, 0, 0, 1, 32, 1, 1, 16);
+    }
+
+    /** SETUP comes again while COMPLETE is lost on the way: another call of the same reference, with its own timers. */
+    private static void setupAfterTheEndIsAnotherCall() {
+        CellSwitch x = Link.synced(2);
+        x.policy(1, 2, 1);
+        x.call(0, 1, 1);
+        x.tick(6);
+        due.call("refused", x, 1, 0, 0, 1001, 32, 1, 0, 17);
+        x.policy(1, 0, 1);
+        for (int t = 17; t <= 20; t++) {
+            Link.lose(x, 2, 0, 4);
+            x.tick(1);
+        }
+        due.same("one call", x.calls(1), 1);
+        x.tick(1);
+        due.call("SETUP again at 21", x, 1, 1, 8, 1001, 32, 1, 0, 0);
+        x.tick(9);
+        due.call("COMPLETE came at last", x, 0, 0, 0, 1, 32, 1, 1, 17);
+        due.call("CONNECT of a call that is over is nothing", x, 1, 1, 8);
+        x.tick(1);
+        due.call("RELEASE 102 at 31", x, 1, 1, 11, 1001, 32, 1, 0, 102);
+        x.tick(1);
+        due.call("COMPLETE 81", x, 1, 1, 0, 1001, 32, 1, 0, 102);
+        due.call("the first one stays", x, 1, 0, 0, 1001, 32, 1, 0, 17);
     }
 }

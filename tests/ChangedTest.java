@@ -27,6 +27,9 @@ public final class ChangedTest {
         confirmThatIsNothing();
         releaseOfNoCall();
         theDataQueueIsFull();
+        framesOfAnotherLength();
+        dataWithoutBytes();
+        connectAtAnotherTime();
         due.end();
     }
 
@@ -305,7 +308,7 @@ public final class ChangedTest {
     }
 
     private static void confirmThatIsNothing() {
-        int[][] changes = {{5, 1}, {5, 13}, {2, 128}, {4, 1}, {8, 1}};
+        int[][] changes = {{5, 1}, {5, 13}, {5, 8}, {2, 128}, {4, 1}, {8, 1}};
         for (int[] change : changes) {
             CellSwitch x = called();
             Link.change(x, 3, CONFIRM, change);
@@ -360,5 +363,55 @@ public final class ChangedTest {
         due.same("of 60 cells", x.direction(2, 7), 12);
         x.tick(10);
         due.same("nine whole frames of 48 cells", x.received(0, -1, 0), 9);
+    }
+
+    /** The length in the last cell of a frame of data, with a CRC that fits. */
+    private static void framesOfAnotherLength() {
+        int[][] lengths = {{200, 201, 0}, {200, 199, 1}, {200, 184, 0}, {200, 185, 1}, {1, 0, 0}, {1, 40, 1}, {1, 41, 0}};
+        for (int[] length : lengths) {
+            CellSwitch x = Link.connected(3);
+            x.tick(5);
+            Link.tape(x, length[0], 1);
+            x.send(0, 0);
+            // of five cells at rate 3 the last is the second of the next tick
+            Link.change(x, 0, length[0] > 40 ? 4 + 1 : 0, 43, length[0] ^ length[1]);
+            x.tick(1);
+            x.tick(3);
+            String what = length[1] + " bytes instead of " + length[0];
+            due.same(what, x.received(1, -1, 0), length[2]);
+            due.same(what + ", spoilt", x.direction(3, 6), 1 - length[2]);
+            if (length[2] == 1) {
+                due.same(what, x.received(1, 0, 1), length[1]);
+            }
+        }
+    }
+
+    /** END made a DATA of no bytes, at R. */
+    private static void dataWithoutBytes() {
+        CellSwitch x = Link.connected(1);
+        x.tick(5);
+        due.line("R is 2", x, 2, 2, 2, 2, 10, 2, 2, 2, 2);
+        x.quit(0);
+        Link.change(x, 0, 0, 0, 3 ^ 8, 3, 2);
+        x.tick(1);
+        due.line("thrown away", x, 2, 2, 2, 2, 10, 2, 2, 2, 2, 0, 0, 0, 0);
+    }
+
+    /** CONFIRM of the end that calls made a CONNECT: nothing for the switch, whose call is ACTIVE. */
+    private static void connectAtAnotherTime() {
+        CellSwitch x = called();
+        Link.change(x, 0, 32, 5, 7 ^ 15);
+        x.tick(10);
+        due.call("ACTIVE", x, 0, 0, 10);
+        due.same("the switch told PROCEEDING and CONNECT", x.line(2, 1) + x.line(2, 8), 2);
+        // PROCEEDING of the end called made a CONFIRM: nothing for the switch, which tells SETUP again
+        CellSwitch y = Link.synced(2);
+        y.policy(1, 1, 30);
+        y.call(0, 1, 1);
+        Link.change(y, 2, 24, 5, 2 ^ 15);
+        y.tick(11);
+        due.same("SETUP was told again", y.line(3, 1), 2);
+        y.tick(9);
+        due.call("and given up at 29", y, 0, 0, 0, 1, 32, 1, 1, 102);
     }
 }

@@ -21,6 +21,11 @@ public final class LinesTest {
         quitIsSentFourTimes();
         beginOfAnotherTime();
         resetOfAnIdleSide();
+        beginAgainOfTheSameTime();
+        resetAgainOfTheSameTime();
+        resetOfWhatCameAhead();
+        gapAcknowledges();
+        pollsOfThoseThatGoAgain();
         due.end();
     }
 
@@ -343,5 +348,106 @@ public final class LinesTest {
         due.line("END 1 came", x, 0, 0, 0, 0, 0, 0, 0, 0, 0, 0, 0, 0, 1);
         due.call("cut", x, 0, 0, 0, 1, 32, 1, 1, 41);
         due.same("IDLE, cut once", x.line(2, 11), 1);
+    }
+
+    /** BEGUN is lost; the other side has sent DATA when BEGIN comes again. */
+    private static void beginAgainOfTheSameTime() {
+        CellSwitch x = Link.synced(2);
+        x.call(0, 1, 1);
+        x.call(1, 0, 1);
+        x.damage(1, Link.LOSE, 4, 0, 0);
+        x.tick(4);
+        due.line("SETUP to an end that is BEGINNING", x, 2, 2, 1, 0, 8, 0, 0, 0, 0, 0, 1);
+        x.tick(2);
+        due.line("BEGIN again at 16", x, 2, 2, 1, 0, 8, 1, 0, 0, 0, 0, 1, 0, 0);
+        due.same("its calls stay", x.link(0, 0, 0), 1);
+        x.tick(1);
+        due.line("READY at 17", x, 0, 2, 0, 0, 8);
+        x.tick(6);
+        due.same("SETUP goes again and makes one call", x.calls(0), 2);
+        due.call("it is answered", x, 0, 1, 10, 1001, 32);
+    }
+
+    /** RESET DONE is lost; the other side has sent DATA when RESET comes again. */
+    private static void resetAgainOfTheSameTime() {
+        CellSwitch x = Link.connected(1);
+        x.tick(5);
+        x.reset(0);
+        x.tick(1);
+        x.damage(1, Link.LOSE, 0, 0, 0);
+        x.hang(1, 0);
+        x.tick(2);
+        due.line("RELEASE to an end that is RESETTING", x, 2, 2, 1, 0, 8, 0, 0, 0, 0, 0, 1);
+        x.tick(2);
+        due.line("RESET again at 30", x, 2, 2, 1, 0, 8, 1, 0, 0, 0, 0, 1);
+        due.same("RESETTING", x.line(0, 0), 3);
+        x.tick(1);
+        due.line("READY at 31", x, 0, 2, 0, 0, 8);
+        x.tick(6);
+        due.call("RELEASE goes again", x, 0, 0, 0, 1, 32, 1, 1, 16);
+    }
+
+    private static void resetOfWhatCameAhead() {
+        CellSwitch x = Link.synced(2);
+        x.call(0, 1, 5);
+        x.call(0, 1, 5);
+        x.damage(0, Link.LOSE, 8, 0, 0);
+        x.tick(3);
+        due.same("1 came ahead", x.line(2, 10), 1);
+        x.reset(0);
+        x.tick(1);
+        due.line("gone", x, 2, 2, 0, 0, 8, 0, 0, 0, 0, 0, 0, 0);
+        x.tick(1);
+        due.line("gone", x, 0, 2, 0, 0, 8, 0, 0, 0, 0, 0, 0, 0);
+        // both calls tell SETUP again at 18, as DATA 0 and 1
+        x.tick(3);
+        due.line("new ones", x, 2, 2, 0, 0, 8, 0, 0, 2, 2, 2, 0, 0);
+    }
+
+    private static void gapAcknowledges() {
+        CellSwitch x = Link.synced(2);
+        x.call(0, 1, 1);
+        x.call(0, 1, 1);
+        x.call(0, 1, 1);
+        x.damage(0, Link.LOSE, 9, 0, 0);
+        x.tick(3);
+        due.line("DATA 1 lost", x, 2, 2, 0, 0, 8, 0, 0, 1, 3, 1, 0, 1);
+        x.tick(1);
+        due.line("GAP 1, 2 with R 1", x, 0, 2, 3, 1, 9, 0, 0, 1, 1, 0, 2);
+        int busy = x.count(2) - x.count(3);
+        x.tick(1);
+        due.line("DATA 1 again", x, 2, 2, 1, 0, 8, 1, 0, 3, 3, 2);
+        // DATA 1, POLL of the switch and BEGUN of end 1
+        due.same("once", x.count(2) - x.count(3) - busy, 3);
+        busy = x.count(2) - x.count(3);
+        x.tick(1);
+        // STATUS and POLL of end 0; two PROCEEDINGs; one SETUP, two more of the calls that came now
+        due.same("and no more", x.count(2) - x.count(3) - busy, 2 + 2 + 3);
+    }
+
+    /** Of DATA 2 .. 7 none comes, POLL 3 does; the next STATUS asks for 6, which went behind its POLL, and for 7. */
+    private static void pollsOfThoseThatGoAgain() {
+        CellSwitch x = Link.connected(1);
+        x.tick(5);
+        for (int i = 0; i < 6; i++) {
+            x.call(0, 1, 5);
+        }
+        Link.lose(x, 0, 0, 5);
+        x.damage(0, Link.LOSE, 6, 0, 0);
+        x.tick(2);
+        due.line("POLL behind DATA 6 came", x, 2, 2, 2, 2, 10, 2, 2, 2, 7);
+        x.tick(1);
+        due.line("STATUS 2, 7 of P 3", x, 0, 2, 8, 2, 10, 3, 3, 2, 2, 0, 6);
+        x.tick(1);
+        due.line("2 .. 5 go again, a POLL behind the fifth since POLL 3, 6", x, 0, 2, 8, 2, 10, 4, 3);
+        due.same("four of six cells are gone", x.direction(0, 8), 2);
+        x.tick(1);
+        due.line("all but DATA 7", x, 2, 2, 6, 2, 10, 2, 2, 7, 8, 1);
+        x.tick(1);
+        due.line("STATUS 6, 8 of P 4", x, 0, 2, 8, 6, 14, 4, 4);
+        int busy = x.count(2) - x.count(3);
+        x.tick(1);
+        due.line("DATA 7 again", x, 2, 2, 7, 6, 14, 3, 3, 8, 8, 1);
+        due.same("and STATUS, but DATA 6 does not go again", x.count(2) - x.count(3) - busy, 2);
     }
 }

@@ -44,6 +44,15 @@ final class Link {
         }
     }
 
+    /** Changes the header of a message cell that is the last of its frame to that of a data cell of channel 32. */
+    static void divert(CellSwitch x, int direction, int k) {
+        int message = 0x52;
+        int data = 0x202;
+        x.damage(direction, FLIP, k, 2, 0x02);
+        x.damage(direction, FLIP, k, 3, 0x50);
+        x.damage(direction, FLIP, k, 4, x.header(message, 0, 0) ^ x.header(data, 0, 0));
+    }
+
     /** The rest of the bytes, as a polynomial times x to the 32nd, by that of the CRC. */
     static long remainder(int[] bytes) {
         long rest = 0;

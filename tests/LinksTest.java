@@ -14,6 +14,9 @@ public final class LinksTest {
         aCellIsTakenWithItsLastOctet();
         allDamagesOfACellCount();
         loseAloneCounts();
+        damagesKeepTheirKind();
+        aHuntBeginsBehindTheHeader();
+        aHeaderOffItsPlace();
         otherChannelsAreLost();
         due.end();
     }
@@ -183,6 +186,49 @@ public final class LinksTest {
         x.tick(1);
         direction("only not there", x, 0, 2, 0, 0, 38, 0, 0);
         due.same("all of it are used up", x.damage(0, Link.FLIP, 999, 0, 1), 2);
+    }
+
+    private static void damagesKeepTheirKind() {
+        CellSwitch x = Link.synced(2);
+        x.damage(0, Link.LOSE, 0, 0, 0);
+        x.damage(0, Link.FLIP, 4, 0, 1);
+        x.damage(0, Link.SLIP, 8, 0, 0);
+        x.damage(0, Link.FLIP, 12, 1, 3);
+        x.tick(1);
+        direction("one is lost", x, 0, 2, 0, 0, 38, 0, 0);
+        x.tick(1);
+        direction("one is put right", x, 0, 2, 0, 0, 42, 0, 1);
+        x.tick(2);
+        direction("a slip hides the last", x, 0, 0, 0, 0, 43, 6, 1);
+    }
+
+    /** Octets of a wrong header and behind it look like a header, but the hunt begins behind it. */
+    private static void aHuntBeginsBehindTheHeader() {
+        CellSwitch x = Link.synced(2);
+        for (int k = 0; k < 7; k++) {
+            x.damage(0, Link.FLIP, k, 1, 3);
+        }
+        x.damage(0, Link.FLIP, 6, 5, 106 ^ x.header(0x03000152, 0, 0));
+        x.tick(2);
+        direction("the next cell is found", x, 0, 1, 0, 1, 35, 6, 0);
+        x = new CellSwitch(2);
+        x.damage(0, Link.FLIP, 1, 1, 3);
+        x.damage(0, Link.FLIP, 1, 5, 106 ^ x.header(0x03000152, 0, 0));
+        x.tick(1);
+        direction("so it is behind a wrong one of PRESYNC", x, 0, 1, 0, 2, 0, 0, 0);
+    }
+
+    /** At first five octets anywhere may be a header: here 0, 0, 1, 86 and the octet behind an idle cell's header. */
+    private static void aHeaderOffItsPlace() {
+        CellSwitch x = new CellSwitch(2);
+        x.damage(0, Link.FLIP, 0, 4, 82 ^ 86);
+        x.tick(1);
+        direction("cell 1 is the first", x, 0, 1, 0, 3);
+        x = new CellSwitch(2);
+        x.damage(0, Link.FLIP, 0, 4, 82 ^ 86);
+        x.damage(0, Link.FLIP, 0, 5, 106 ^ x.header(0x00000156, 0, 0));
+        x.tick(1);
+        direction("48 octets pass, a wrong header, cell 2 is the first", x, 0, 1, 0, 2);
     }
 
     private static void otherChannelsAreLost() {

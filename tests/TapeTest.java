@@ -52,6 +52,11 @@ public final class TapeTest {
             due.same("crc of " + length, x.crc(), crcOf(bytes));
             due.same("the tape stays", x.crc(), crcOf(bytes));
         }
+        CellSwitch longer = new CellSwitch(2);
+        byte[] bytes = Link.tape(longer, 40, 40);
+        due.same("crc of 40", longer.crc(), crcOf(bytes));
+        longer.end(0);
+        due.same("crc of 20 bytes of these", longer.crc(), crcOf(java.util.Arrays.copyOf(bytes, 20)));
         CellSwitch x = new CellSwitch(2);
         due.same("crc of nothing", x.crc(), 0);
         x.feed(0, 0, 0, 0, 0);

@@ -1803,7 +1803,6 @@ public final class CellSwitch {
             Call there = new Call(to, to.lastReference, true);
             here.partner = there;
             there.partner = here;
-            here.other = signal.called;
             there.other = link;
             here.rate = signal.rate;
             there.rate = signal.rate;
