@@ -204,17 +204,27 @@ public final class ChangedTest {
             x.tick(1);
             recovers("byte " + change[0] + " of GAP", x, 0, 2);
         }
+        for (int upTo = 2; upTo <= 3; upTo++) {
+            CellSwitch x = called();
+            x.call(0, 1, 1);
+            x.call(0, 1, 1);
+            x.damage(0, Link.LOSE, DATA, 0, 0);
+            x.tick(3);
+            Link.change(x, 1, 0, 7, 1 ^ upTo);
+            x.tick(1);
+            due.line("0 up to " + upTo + " go again", x, 0, 2, 3, 0, 8, 0, 0, 0, 0, 0, 3);
+            x.tick(1);
+            due.same("all came", x.line(2, 6), 3);
+            due.same("DATA 1 came twice, its call was made once", x.link(0, 0, 0), 3);
+        }
         CellSwitch x = called();
-        x.call(0, 1, 1);
         x.call(0, 1, 1);
         x.damage(0, Link.LOSE, DATA, 0, 0);
         x.tick(3);
-        Link.change(x, 1, 0, 7, 3);
-        x.tick(1);
-        due.line("0 and 1 go again", x, 0, 2, 3, 0, 8, 0, 0, 0, 0, 0, 3);
-        x.tick(1);
-        due.same("all came", x.line(2, 6), 3);
-        due.same("DATA 1 came twice, its call was made once", x.link(0, 0, 0), 3);
+        Link.change(x, 1, 0, 11, 1);
+        x.tick(2);
+        due.line("M does not fit N: thrown away", x, 0, 2, 2, 0, 8, 0, 0);
+        due.line("not again", x, 2, 2, 0, 0, 8, 0, 0, 0, 2, 0, 0, 1);
     }
 
     private static void dataOutOfTheWindow() {
@@ -344,6 +354,11 @@ public final class ChangedTest {
         y.tick(2);
         due.call("the cause that came", y, 1, 0, 0, 1001, 32, 1, 0, 200);
         due.call("one that is RELEASING keeps its own", y, 0, 0, 0, 1, 32, 1, 1, 16);
+        CellSwitch z = Link.connected(1);
+        z.hang(0, 0);
+        Link.change(z, 0, z.direction(0, 8), 13, 16);
+        z.tick(2);
+        due.call("any cause", z, 1, 0, 0, 1001, 32, 1, 0, 0);
     }
 
     private static void theDataQueueIsFull() {

@@ -306,8 +306,8 @@ public final class LinesTest {
         due.line("END came", x, 2, 0, 0, 0, 0, 0, 0, 0, 0, 0, 0, 0, 1);
     }
 
-    /** A side whose END is lost five times begins anew with one that is READY still. */
-    private static void beginOfAnotherTime() {
+    /** Time 40: end 0 has ended its line, but no END came to the switch. */
+    private static CellSwitch endedAlone() {
         CellSwitch x = Link.connected(1);
         x.damage(0, Link.LOSE, x.direction(0, 8), 0, 0);
         x.quit(0);
@@ -315,6 +315,11 @@ public final class LinesTest {
             x.damage(0, Link.LOSE, k, 0, 0);
         }
         x.tick(20);
+        return x;
+    }
+
+    private static void beginOfAnotherTime() {
+        CellSwitch x = endedAlone();
         due.line("cut", x, 0, 0, 0, 0, 0, 0, 0, 0, 0, 0, 0, 0, 1);
         due.same("READY still", x.line(2, 0), 2);
         due.call("active still", x, 1, 0, 10);
@@ -327,6 +332,37 @@ public final class LinesTest {
         due.call("RELEASE 41", x, 1, 0, 0, 1001, 32, 1, 0, 41);
         x.tick(8);
         due.call("the new call", x, 0, 1, 10, 2, 32, 1, 1, 0);
+        beginWhileResetting();
+        beginWhileEnding();
+    }
+
+    private static void beginWhileResetting() {
+        CellSwitch x = endedAlone();
+        x.damage(1, Link.LOSE, x.direction(1, 8), 0, 0);
+        due.same("reset", x.reset(2), 1);
+        x.call(0, 1, 1);
+        x.tick(1);
+        due.line("BEGIN came", x, 2, 2, 0, 0, 8, 0, 0, 0, 0, 0, 0, 0, 0);
+        due.same("its calls are over", x.link(0, 0, 0), 0);
+        x.tick(1);
+        due.call("RELEASE 41", x, 1, 0, 0, 1001, 32, 1, 0, 41);
+    }
+
+    private static void beginWhileEnding() {
+        CellSwitch x = endedAlone();
+        x.damage(1, Link.LOSE, x.direction(1, 8), 0, 0);
+        due.same("quit", x.quit(2), 1);
+        x.call(1, 0, 1);
+        x.tick(1);
+        due.same("a call since then", x.link(0, 0, 0), 1);
+        due.line("SETUP waits", x, 2, 4);
+        due.same("SETUP waits", x.line(2, 8), 1);
+        x.call(0, 1, 1);
+        x.tick(1);
+        due.line("BEGIN came, what waits stays", x, 2, 2, 0, 0, 8, 0, 0, 0, 0, 1, 0, 0, 0);
+        due.same("its calls are over", x.link(0, 0, 0), 0);
+        x.tick(1);
+        due.call("RELEASE 41; channel 32 was not free yet", x, 1, 1, 0, 1, 33, 1, 0, 41);
     }
 
     /** RESET that comes to an idle side is answered by END 1. */

@@ -229,6 +229,16 @@ public final class LinksTest {
         x.damage(0, Link.FLIP, 0, 5, 106 ^ x.header(0x00000156, 0, 0));
         x.tick(1);
         direction("48 octets pass, a wrong header, cell 2 is the first", x, 0, 1, 0, 2);
+        // the octet ahead of an idle cell, and its 0, 0, 0, 1
+        int ahead = 0;
+        for (int octet = 0; octet < 256; octet++) {
+            ahead = x.header(octet << 24, 0, 0) == 1 ? octet : ahead;
+        }
+        x = new CellSwitch(2);
+        x.damage(0, Link.FLIP, 0, 4, 1);
+        x.damage(0, Link.FLIP, 0, 52, 106 ^ ahead);
+        x.tick(1);
+        direction("found before cell 1, lost before cell 2, found at cell 3", x, 0, 1, 0, 1);
     }
 
     private static void otherChannelsAreLost() {

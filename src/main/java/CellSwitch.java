@@ -38,19 +38,27 @@ public final class CellSwitch {
 
     public CellSwitch(int ends) {
         int n = Math.max(LEAST_ENDS, Math.min(MOST_ENDS, ends));
-        this.ends = n;
-        directions = new Direction[2 * n];
-        endSides = new EndSide[n];
-        switchSides = new SwitchSide[n];
-        sides = new Side[2 * n];
+        Direction[] ways = new Direction[2 * n];
+        EndSide[] atEnds = new EndSide[n];
+        SwitchSide[] atSwitch = new SwitchSide[n];
+        Side[] all = new Side[2 * n];
         for (int e = 0; e < n; e++) {
-            directions[2 * e] = new Direction();
-            directions[2 * e + 1] = new Direction();
-            endSides[e] = new EndSide(e, new Line(directions[2 * e]));
-            switchSides[e] = new SwitchSide(e, new Line(directions[2 * e + 1]), switchSides);
-            sides[e] = endSides[e];
-            sides[n + e] = switchSides[e];
+            Direction up = new Direction();
+            Direction down = new Direction();
+            EndSide atEnd = new EndSide(e, new Line(up));
+            SwitchSide far = new SwitchSide(e, new Line(down), atSwitch);
+            ways[2 * e] = up;
+            ways[2 * e + 1] = down;
+            atEnds[e] = atEnd;
+            atSwitch[e] = far;
+            all[e] = atEnd;
+            all[n + e] = far;
         }
+        this.ends = n;
+        directions = ways;
+        endSides = atEnds;
+        switchSides = atSwitch;
+        sides = all;
     }
 
     // ---- the tape and the time
