@@ -1456,7 +1456,10 @@ public final class CellSwitch {
 
         final int link;
         final Line line;
-        /** By references as they came; a side gets or makes no more than its messages of SETUP ask for. */
+        /**
+         * By references as they came. An end tells no more than 80 SETUPs, its 40 calls twice, so that a side of the
+         * switch has no more than 320 of four ends.
+         */
         final ArrayList<Call> references = new ArrayList<Call>();
         int lastReference;
 
