@@ -16,6 +16,9 @@ public final class AnyCallsTest {
         for (int seed = 0; seed < 60; seed++) {
             framesComeAsTheyWere(seed);
         }
+        for (int seed = 0; seed < 60; seed++) {
+            due.same("units " + seed + ", once more", anyUnits(seed), anyUnits(seed));
+        }
         room();
         due.end();
     }
@@ -94,6 +97,51 @@ public final class AnyCallsTest {
             }
             due.isTrue("run " + seed + ": frame of " + length, same);
         }
+    }
+
+    /** Units and messages of any bytes come to the switch and to end 0; answers a sum over what is seen then. */
+    private static long anyUnits(int seed) {
+        Random random = new Random(seed);
+        CellSwitch x = seed % 2 == 0 ? Inject.open() : Inject.quiet();
+        long sum = 0;
+        for (int i = 0; i < 70; i++) {
+            int[] unit = random.nextInt(3) == 0 ? anyWords(random) : anyData(random, x.line(seed % 2 == 0 ? 3 : 0, 6));
+            if (seed % 2 == 0) {
+                Inject.unitOf(x, unit);
+                x.tick(1);
+            } else {
+                Inject.toEnd(x, 1, unit);
+                x.tick(1);
+            }
+            x.hang(random.nextInt(2), random.nextInt(8));
+            for (int what = 0; what < 12; what++) {
+                sum = sum * 31 + x.line(what % 4, what) + x.direction(what % 4, what) + x.about(what % 2, 1 + what / 4, what % 7);
+            }
+        }
+        return sum;
+    }
+
+    private static int[] anyWords(Random random) {
+        int[] words = new int[1 + random.nextInt(4)];
+        for (int i = 0; i < words.length; i++) {
+            words[i] = random.nextInt(3) == 0 ? random.nextInt() : random.nextInt(13);
+        }
+        words[words.length - 1] = Inject.last(random.nextInt(17), random.nextInt(12));
+        return Inject.bytesOf(words);
+    }
+
+    private static int[] anyData(Random random, int n) {
+        int[] types = {Inject.SETUP, Inject.PROCEEDING, Inject.CONNECT, Inject.CONFIRM, Inject.RELEASE, Inject.COMPLETE};
+        int[] numbers = {112, 89, 108, 90, 8};
+        int[] elements = {};
+        int count = random.nextInt(5);
+        for (int i = 0; i < count; i++) {
+            int number = random.nextInt(4) == 0 ? numbers[random.nextInt(5)] : numbers[i];
+            int[] bytes = number == 90 ? new int[] {random.nextInt(2), random.nextInt(256)} : new int[] {random.nextInt(5)};
+            elements = Inject.joined(elements, Inject.element(number, bytes));
+        }
+        int[] message = Inject.message(types[random.nextInt(6)], random.nextBoolean(), random.nextInt(4), elements);
+        return Inject.joined(message, Inject.bytesOf(Inject.last(Inject.DATA, n)));
     }
 
     private static void room() {

@@ -235,6 +235,16 @@ public final class CellsBoundsTest {
         Link.lose(x, 0, 2, 2);
         x.tick(1);
         due.direction("four octets of it came before", x, 0, 0, 0, 0, 0);
+        // of the five octets that are right one came before: the HEC of the wrong header; or none of them
+        int[][] ahead = {{5 + 3, x.header(0x526A6A6A, 0, 0), 0}, {5 + 4, x.header(0x6A6A6A6A, 0, 0), 1}};
+        for (int[] octet : ahead) {
+            x = new CellSwitch(2);
+            wrong(x, 0, 1);
+            x.damage(0, Link.FLIP, 1, octet[0], 106 ^ octet[1]);
+            Link.lose(x, 0, 2, 2);
+            x.tick(1);
+            due.direction("right with octet " + octet[0], x, 0, octet[2], 0, octet[2], 0);
+        }
         // the same octets, when the hunt began long before, are a header
         x = new CellSwitch(2);
         wrong(x, 0, 0);

@@ -27,6 +27,7 @@ public final class LinesBoundsTest {
         term3DataFromRToM();
         term3DataAtH();
         term3DataThatCameAhead();
+        term3AllBeginAnew();
         term3PollUpToM();
         term3TheListOfAStatus();
         term3TheNumberOfAStatus();
@@ -396,6 +397,7 @@ public final class LinesBoundsTest {
             x.tick(2);
             boolean taken = length >= 1 && length <= 60;
             due.same("R behind " + length, x.line(3, 6), taken ? 2 : 1);
+            due.same("H behind " + length, x.line(3, 7), taken ? 2 : 1);
             due.same("not SPOILT", x.direction(2, 6), 0);
         }
     }
@@ -570,9 +572,61 @@ public final class LinesBoundsTest {
         x.tick(1);
         due.line("all", x, 3, READY, 2, 2, 10, 1, 1, 4, 4, 0, 0, 0);
         nothingOf("DATA 3 once more", x, Inject.joined(new int[] {1}, Inject.bytesOf(last(DATA, 3))));
+        // seven ahead and the one whose turn it is: eight messages, each answered
+        for (int ahead = 6; ahead <= 7; ahead++) {
+            x = in(READY);
+            for (int n = 2; n <= ahead + 1; n++) {
+                refusedSetup(x, n);
+                if (n % 4 == 0 || n == ahead + 1) {
+                    silentTick(x);
+                }
+            }
+            due.same("ahead", x.line(3, 10), ahead);
+            due.same("none is answered", x.line(3, 8), 0);
+            refusedSetup(x, 1);
+            silentTick(x);
+            due.line("all", x, 3, READY, 2, 2, 10, 1, 1, ahead + 2, ahead + 2, ahead + 1, 0, 0);
+        }
     }
 
     // ---- POLL and STATUS
+
+    private static void term3AllBeginAnew() {
+        due.of("Term 3, 'All begin ANEW: numbers 0, what was sent or came ahead is gone (what waits stays)'");
+        for (int n = 2; n <= 8; n++) {
+            CellSwitch x = in(READY);
+            Inject.data(x, n, 1);
+            x.tick(1);
+            due.same("DATA " + n + " came ahead", x.line(3, 10), 1);
+            Link.lose(x, 3, 0, 1);
+            come(x, 8, last(RESET, 7));
+            due.line("gone", x, 3, READY, 0, 0, 8, 0, 0, 0, 0, 0, 0, 0, 0);
+            Inject.data(x, 0, 1);
+            x.tick(1);
+            due.line("DATA 0 alone", x, 3, READY, 0, 0, 8, 0, 0, 1, 1, 0, 0, 0, 0);
+        }
+        CellSwitch x = full();
+        come(x, 8, last(RESET, 7));
+        due.line("what was sent is gone, what waits stays", x, 3, READY, 0, 0, 8, 0, 0, 0, 0, 3, 0);
+        silentTick(x);
+        due.line("it goes", x, 3, READY, 3, 0, 8, 0, 0, 0, 0, 0, 3);
+        // 3 DATA since the last POLL, then 4 since the line began anew: the fifth of these is the next
+        for (int more = 1; more <= 2; more++) {
+            CellSwitch y = Link.synced(2);
+            for (int i = 0; i < 3; i++) {
+                y.call(0, 1, 5);
+            }
+            y.tick(3);
+            due.line("3 sent", y, 0, READY, 3, 0, 8, 0, 0);
+            y.reset(0);
+            y.tick(1);
+            for (int i = 0; i < 3 + more; i++) {
+                y.call(0, 1, 5);
+            }
+            y.tick(2);
+            due.line("sent since", y, 0, READY, 3 + more, 0, 8, more == 2 ? 1 : 0, 0);
+        }
+    }
 
     private static void term3PollUpToM() {
         due.of("Term 3, 'POLL P, N: H is N at least (not above M)'");
@@ -740,7 +794,7 @@ public final class LinesBoundsTest {
         due.of("Term 3, 'those from each odd one (..) to the next that went last with a P below that are to go AGAIN'");
         // the P and the list of a STATUS of N 2, and how many of DATA 2 .. 5 go again
         int[][] lists = {{2, 0}, {2, 0, 2}, {2, 1, 2, 3}, {2, 4, 2, 6}, {2, 3, 2, 5}, {2, 1, 5, 6}, {2, 2, 2, 3, 5, 6},
-            {2, 3, 2, 3, 4, 6}, {2, 1, 2, 3, 4}, {2, 2, 3, 5, 6}, {1, 0, 2, 6}, {1, 0, 2, 3}};
+            {2, 3, 2, 3, 4, 6}, {2, 2, 2, 3, 4, 5}, {2, 1, 2, 3, 4}, {2, 2, 3, 5, 6}, {1, 0, 2, 6}, {1, 0, 2, 3}};
         for (int[] one : lists) {
             CellSwitch x = sending();
             int[] list = Arrays.copyOfRange(one, 2, one.length);
@@ -751,6 +805,17 @@ public final class LinesBoundsTest {
             due.same("P " + one[0] + " and " + Arrays.toString(list), x.count(2) - x.count(3) - before, one[1]);
             due.same("S", x.line(3, 1), 6);
         }
+        // an odd one that is the last has no next, however high the P behind it is
+        CellSwitch z = sending();
+        for (int t = 29; t <= 44; t++) {
+            silentTick(z);
+        }
+        due.same("POLL 6 at 44", z.line(3, 4), 6);
+        come(z, 2, 6, 10, last(STATUS, 2));
+        due.line("right", z, 3, READY, 6, 2, 10, 6, 6);
+        int waits = z.count(2) - z.count(3);
+        silentTick(z);
+        due.same("none goes AGAIN", z.count(2) - z.count(3) - waits, 0);
         // those that went again went with P 2: a STATUS of P 2 does not ask for them, one of P 3 does
         CellSwitch x = sending();
         come(x, 2, 6, 2, 10, last(STATUS, 2));

@@ -890,6 +890,8 @@ public final class PromiseBoundsTest {
             int hec = x.header(octets, 0, 0);
             if (hec == 0 || hec == 255) {
                 due.same("h " + hec, x.header(octets, hec, 1), 1);
+                due.same("256 more", x.header(octets, hec + 256, 1), 0);
+                due.same("256 less", x.header(octets, hec - 256, 1), 0);
                 seen++;
             }
         }

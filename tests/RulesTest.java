@@ -81,5 +81,26 @@ public final class RulesTest {
                 Set.of("java.util.ArrayList", "java.util.Arrays").contains(imports.group(1)));
         }
         due.isTrue("ends on a line", text.endsWith("}\n"));
+        methodsAreShort(code);
+    }
+
+    /** Rule 11: some sixty lines. A method begins on a line that ends with ") {" inside a class, and ends at its brace. */
+    private static void methodsAreShort(String code) {
+        Pattern head = Pattern.compile("( {4}| {8})(?! |if\\b|for\\b|while\\b|switch\\b|else\\b)[\\w<>\\[\\] ]+\\([^;]*\\) \\{");
+        String[] lines = code.split("\n");
+        int methods = 0;
+        for (int i = 0; i < lines.length; i++) {
+            Matcher matcher = head.matcher(lines[i]);
+            if (!matcher.matches()) {
+                continue;
+            }
+            int end = i;
+            while (end < lines.length && !lines[end].equals(matcher.group(1) + "}")) {
+                end++;
+            }
+            due.isTrue("sixty lines at most:" + lines[i], end - i < 60);
+            methods++;
+        }
+        due.isTrue("methods were seen", methods > 80);
     }
 }

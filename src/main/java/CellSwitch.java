@@ -1457,8 +1457,8 @@ public final class CellSwitch {
         final int link;
         final Line line;
         /**
-         * By references as they came. An end tells no more than 80 SETUPs, its 40 calls twice, so that a side of the
-         * switch has no more than 320 of four ends.
+         * By references as they came: 40 calls at an end; at the switch as many as it let through, each of which takes
+         * one of the 512 calls of a run.
          */
         final ArrayList<Call> references = new ArrayList<Call>();
         int lastReference;
