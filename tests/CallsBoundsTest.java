@@ -3,7 +3,8 @@ import java.util.Arrays;
 /** The boundary cases of term 4 CALLS, each at the boundary and on both sides of it. */
 public final class CallsBoundsTest {
     private static final Expect due = new Expect("CallsBoundsTest");
-    private static final int OVER = 0, ASKED = 1, PROCEEDS = 3, PRESENT = 6, ANSWERED = 8, ACTIVE = 10, RELEASING = 11;
+    private static final int OVER = 0, ASKED = 1, PROCEEDS = 3, PRESENT = 6, ANSWERED = 8, PRESENTED = 9,
+        ACTIVE = 10, RELEASING = 11;
     private static final int SETUP = Inject.SETUP, PROCEEDING = Inject.PROCEEDING, CONNECT = Inject.CONNECT,
         CONFIRM = Inject.CONFIRM, RELEASE = Inject.RELEASE, COMPLETE = Inject.COMPLETE;
     private static final int[] NO_ELEMENTS = {};
@@ -16,6 +17,9 @@ public final class CallsBoundsTest {
         term4ProceedingOfTheSwitchJustSo();
         term4TheHighestBitOfAReference();
         term4EachMessageInEachState();
+        term4EachMessageInEachStateOfTheSwitch();
+        term4TheOtherSidesCall();
+        term4SetupOfTheSwitchThatIsNotOver();
         term4CauseOfOneThatIsReleasing();
         term4ReferencesThatAreOverOrNone();
         term4SetupEightTicksBehind();
@@ -354,6 +358,101 @@ public final class CallsBoundsTest {
         due.same(what + ": its cause", x.about(0, 1, 5), cleared ? 33 : then == RELEASING && state == ASKED ? 96 : cause);
         boolean answers = type == RELEASE || type == CONNECT && then != state;
         due.same(what + ": answers", x.line(0, 1) + x.line(0, 8) - said, answers ? 1 : 0);
+    }
+
+    /**
+     * A call of end 1 at the switch in a state: 3 of the end's reference 70, 6 and 9 of the switch's reference 2, 10 and 11
+     * of its reference 1. What is told to end 1 is lost.
+     */
+    private static CellSwitch switchIn(int state) {
+        CellSwitch x;
+        if (state == PROCEEDS) {
+            x = Inject.open();
+            x.policy(0, 1, 30);
+            toSwitch(x, Inject.message(SETUP, true, 70, setupElements(0, 1)));
+        } else if (state == PRESENT || state == PRESENTED) {
+            x = present();
+            if (state == PRESENTED) {
+                Link.lose(x, 3, 0, 4);
+                toSwitch(x, Inject.message(PROCEEDING, false, 2, NO_ELEMENTS));
+            }
+        } else {
+            x = Inject.open();
+            if (state == RELEASING) {
+                x.hang(0, 0);
+                x.tick(1);
+            }
+        }
+        silent(x, 3, 1);
+        return x;
+    }
+
+    private static int[] ofState(int state, int type, int[] elements) {
+        return Inject.message(type, state == PROCEEDS, state == PROCEEDS ? 70 : state < ACTIVE ? 2 : 1, elements);
+    }
+
+    private static void term4EachMessageInEachStateOfTheSwitch() {
+        due.of("Term 4, 'what a call's state does not name (PROCEEDING in 3, CONFIRM at the switch)', THE SWITCH");
+        int[] states = {PROCEEDS, PRESENT, PRESENTED, ACTIVE, RELEASING};
+        int[] types = {PROCEEDING, CONNECT, CONFIRM, RELEASE, COMPLETE};
+        for (int state : states) {
+            for (int type : types) {
+                CellSwitch x = switchIn(state);
+                int calls = x.link(1, 0, 0);
+                int joined = x.link(1, 2, 0);
+                int said = x.line(3, 1) + x.line(3, 8);
+                boolean clears = type == RELEASE || type == COMPLETE;
+                boolean connects = type == CONNECT && (state == PRESENT || state == PRESENTED);
+                Link.lose(x, 3, 0, 4);
+                toSwitch(x, ofState(state, type, clears ? cause(33) : NO_ELEMENTS));
+                String what = type + " in " + state;
+                due.same(what + ": calls", x.link(1, 0, 0), clears ? calls - 1 : calls);
+                due.same(what + ": joined", x.link(1, 2, 0),
+                    connects ? joined + 1 : clears && state == ACTIVE ? joined - 1 : joined);
+                due.same(what + ": CONFIRM, COMPLETE", x.line(3, 1) + x.line(3, 8) - said,
+                    connects || type == RELEASE ? 1 : 0);
+            }
+        }
+    }
+
+    private static void term4TheOtherSidesCall() {
+        due.of("Term 4, 'RELEASE, COMPLETE of one: the other side's call, if it is not 11 or over, is RELEASED with that cause'");
+        int[] states = {PROCEEDS, PRESENT, PRESENTED, ACTIVE, RELEASING};
+        int[] types = {RELEASE, COMPLETE};
+        for (int state : states) {
+            for (int type : types) {
+                CellSwitch x = switchIn(state);
+                int call = state == ACTIVE || state == RELEASING ? 0 : 1;
+                int said = x.line(2, 1) + x.line(2, 8);
+                Link.lose(x, 3, 0, 4);
+                toSwitch(x, ofState(state, type, cause(33)));
+                due.same("RELEASE of " + type + " in " + state, x.line(2, 1) + x.line(2, 8) - said, state == RELEASING ? 0 : 1);
+                x.tick(2);
+                due.same("over at the other end", x.about(0, call, 0), OVER);
+                due.same("its cause", x.about(0, call, 5), state == RELEASING ? 16 : 33);
+            }
+        }
+    }
+
+    private static void term4SetupOfTheSwitchThatIsNotOver() {
+        due.of("Term 4, 'SETUP makes a call ..; SETUP of one that is not over is nothing', THE SWITCH");
+        CellSwitch x = switchIn(PROCEEDS);
+        due.link("a call", x, 1, 2, 2, 1);
+        int said = x.line(3, 1) + x.line(3, 8);
+        Link.lose(x, 3, 0, 4);
+        toSwitch(x, Inject.message(SETUP, true, 70, setupElements(0, 1)));
+        due.link("not another", x, 1, 2, 2, 1);
+        due.same("no answer", x.line(3, 1) + x.line(3, 8), said);
+        Link.lose(x, 3, 0, 4);
+        toSwitch(x, Inject.message(COMPLETE, true, 70, cause(33)));
+        due.link("over", x, 1, 1, 1, 1);
+        Link.lose(x, 3, 0, 4);
+        x.tick(2);
+        Link.lose(x, 3, 0, 4);
+        toSwitch(x, Inject.message(SETUP, true, 70, setupElements(0, 1)));
+        due.link("another call of that reference", x, 1, 2, 2, 1);
+        x.tick(1);
+        due.call("it comes to the end called with another reference", x, 0, 2, PRESENT, 1002, 33);
     }
 
     private static void term4CauseOfOneThatIsReleasing() {

@@ -19,6 +19,7 @@ public final class DataBoundsTest {
         term6DirectionByDirection();
         term6CellByCell();
         term6TimersThenTheTurn();
+        term6CallsByReferences();
         term6SidesInTheirOrder();
         term6BeforeAnyTick();
         due.end();
@@ -431,6 +432,58 @@ public final class DataBoundsTest {
         due.same("a call at 31", y.call(0, 1, 1), 2);
         y.tick(1);
         due.line("BEGINNING at 32", y, 0, 1, 0, 0, 0, 0, 0, 0, 0, 1);
+    }
+
+    private static void term6CallsByReferences() {
+        due.of("Term 6, 'timers .. of its calls (by references as they came to the side)'");
+        // two SETUPs are gone with a reset; both are told again at 33, that of the lower reference first
+        CellSwitch x = Inject.quiet();
+        x.call(0, 1, 1);
+        x.call(0, 1, 1);
+        Link.lose(x, 0, 0, 4);
+        x.tick(1);
+        x.reset(0);
+        x.tick(7);
+        due.link("both came at 33", x, 0, 3, 3, 1);
+        x.tick(1);
+        due.call("the first", x, 0, 1, 3, 2, 33);
+        due.call("the second", x, 0, 2, 3, 3, 34);
+        // one that came before it was made: both are RELEASED, and RELEASE is told again of one of them, as 9 messages wait
+        CellSwitch y = Link.synced(2);
+        y.call(1, 0, 1);
+        y.tick(15);
+        due.call("reference 1 of the switch", y, 0, 0, 10, 1001, 32);
+        y.call(0, 1, 1);
+        y.tick(12);
+        due.call("its own reference 1", y, 0, 1, 10, 1, 33);
+        y.hang(0, 1);
+        y.hang(0, 0);
+        Link.lose(y, 0, 0, 4);
+        y.tick(1);
+        due.call("both RELEASING since 37", y, 0, 0, 11);
+        // a line that is RESETTING sends no messages: 9 of them wait at 47
+        y.reset(0);
+        for (int t = 39; t <= 46; t++) {
+            Link.lose(y, 1, 0, 4);
+            y.tick(1);
+            if (t == 46) {
+                for (int i = 2; i < 7; i++) {
+                    y.call(0, 1, 5);
+                }
+                for (int i = 2; i < 6; i++) {
+                    y.hang(0, i);
+                }
+            }
+        }
+        due.same("9 wait at 46", y.line(0, 8), 9);
+        due.same("RESETTING", y.line(0, 0), 3);
+        Link.lose(y, 1, 0, 4);
+        y.tick(1);
+        due.same("10 wait at 47", y.line(0, 8), 10);
+        y.tick(8);
+        due.call("RELEASE of the one that came first is told again", y, 0, 0, 0, 1001, 32, 1, 1, 16);
+        due.call("that of the other one is not", y, 0, 1, 11, 1, 33);
+        due.same("its channels are joined still", y.link(0, 3, 33), 1033);
     }
 
     private static void term6SidesInTheirOrder() {
