@@ -92,6 +92,12 @@ public final class UnitsTest {
         Link.change(x, 0, 0, 4, 7, 3, 1);
         x.tick(1);
         read("COMPLETE of no call", x, 1, 0, 9, 3, 128, 1, 5, 90, 128, 0, 5, 8, 128, 0, 1, 81, 8, 0, 0, 4);
+        // the highest reference there is
+        x = calling(10);
+        x.hang(0, 1);
+        Link.change(x, 0, 0, 2, 127, 3, 255, 4, 2 ^ 255);
+        x.tick(1);
+        read("COMPLETE of the highest", x, 1, 0, 9, 3, 255, 255, 255, 90, 128, 0, 5, 8, 128, 0, 1, 81, 8, 0, 0, 4);
         // the end has none of the switch's references 3, nor one of its own
         x = calling(10);
         x.hang(0, 1);
